@@ -410,15 +410,22 @@ public final class ProvenRows {
 
     /** Numbers one behind the other, in one row that is used again. */
     private static final class Numbers {
-        private final int[] items = new int[MOST_ITEMS];
+        /** Three for each ROW are more than an ANSWER has; PROOFS of 14 PROBES stay below a SHEET. */
+        static final int MOST_ANSWER = 3 * MOST_LEAVES, MOST_PROOFS = MOST_ITEMS;
+
+        private final int[] items;
         private int size;
+
+        Numbers(int most) {
+            items = new int[Math.max(most, 0)];
+        }
 
         void clear() {
             size = 0;
         }
 
         void add(int number) {
-            if (size < MOST_ITEMS) {
+            if (size < items.length) {
                 items[size] = number;
                 size++;
             }
@@ -743,8 +750,8 @@ public final class ProvenRows {
     /** Tells PROOFS and ANSWERS of ACTS from TABLES as they are now. */
     private static final class Prover {
         private final boolean[] shown = new boolean[MOST_LEAVES];
-        private final Numbers proofs = new Numbers();
-        private final Numbers result = new Numbers();
+        private final Numbers proofs = new Numbers(Numbers.MOST_PROOFS);
+        private final Numbers result = new Numbers(Numbers.MOST_ANSWER);
         private final Rows ofA = new Rows();
         private final Rows ofB = new Rows();
 
@@ -870,7 +877,7 @@ public final class ProvenRows {
     private static final class Checker {
         private static final int BAD_NUMBER = 1, OTHER_SEAL = 2, NOT_ENOUGH = 3;
 
-        private final Numbers given = new Numbers();
+        private final Numbers given = new Numbers(Numbers.MOST_PROOFS);
         private int at;
         private int why;
 
@@ -886,7 +893,7 @@ public final class ProvenRows {
         private final Rows ofA = new Rows();
         private final Rows ofB = new Rows();
         private int sum;
-        private final Numbers result = new Numbers();
+        private final Numbers result = new Numbers(Numbers.MOST_ANSWER);
 
         Numbers given() {
             return given;

@@ -168,6 +168,8 @@ public final class RandomRunsTest {
         same("ask(" + act + ", " + what + ")", x.ask(act, what), reference.ask(act, what));
         for (int i = -1; i < 6; i++) same("trace(" + i + ")", x.trace(i), reference.trace(i));
         int d = pick(3) == 0 ? near(65522) : 1 + pick(65520);
+        int mirror = 65521 - 2 * reference.proof(act, pick(40));
+        if (mirror > 0 && mirror < 65521) d = mirror;
         if (pick(3) == 0) same("forged(" + act + ", " + d + ")", x.forged(act, d), reference.forged(act, d));
         int a = near(3);
         int b = near(3);
