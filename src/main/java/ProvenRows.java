@@ -1071,9 +1071,10 @@ public final class ProvenRows {
             return -1;
         }
 
+        /** If x and y of a SUM stand beside one another, the leaf beside each is the other: SHOWN. */
         private boolean isEnough(int word, int x, int behind) {
             if (word == SUM) {
-                return behind == x + 1 || isShown(x + 1) && isShown(behind - 1);
+                return isShown(x + 1) && isShown(behind - 1);
             }
             for (int i = x + 1; i < behind; i++) {
                 if (!isShown(i)) {

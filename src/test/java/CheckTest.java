@@ -231,6 +231,29 @@ public final class CheckTest {
         due.is("a number is missing", x.why(), 1);
     }
 
+    /** What an earlier CHECK read must not come into the sum of a later one. */
+    private static void oneBehindTheOther() {
+        ProvenRows x = new ProvenRows();
+        for (int i = 1; i <= 10; i++) {
+            x.put(0, 10 * i, 100 + i);
+        }
+        x.round();
+        Tape.plan(x, "range 0 0 999;sum 0 0 999;join 0 0 50 60;not 0 1 50 60;");
+        x.sheet(0, 2, 200);
+        int[][] want = {{10, 101, 20, 102}, {2, 1055}, {50, 105, 105, 60, 106, 106}, {50, 105, 60, 106}};
+        for (int again = 0; again < 2; again++) {
+            for (int act = 0; act < 4; act++) {
+                x.write(act, 0, 0);
+                due.is("check of " + act, x.check(act, 0, 0, 0, Tape.NONE), 1);
+                due.is("how many of " + act, x.read(-1), act == 0 ? 20 : want[act].length);
+                for (int i = 0; i < want[act].length; i++) {
+                    due.is("read of " + act, x.read(i), want[act][i]);
+                    due.is("answer of " + act, x.answer(act, i), want[act][i]);
+                }
+            }
+        }
+    }
+
     private static void forged() {
         ProvenRows x = new ProvenRows();
         Tape.rows(x, 0, 10, 5, 20, 6, 30, 7);
@@ -283,6 +306,7 @@ public final class CheckTest {
         pairs();
         places();
         rounds();
+        oneBehindTheOther();
         forged();
         forgedTaken();
         due.end();

@@ -56,6 +56,12 @@ public final class PlansTest {
         faulty("rang 0 0 0;", 1, 0);
         faulty("ranges 0 0 0;", 1, 0);
         faulty("Range 0 0 0;", 1, 0);
+        faulty("rangeaz 0 0 0;", 1, 0);
+        faulty("range`0 0 0;", 1, 5);
+        faulty("range{0 0 0;", 1, 5);
+        faulty("range 0/ 0 0;", 1, 7);
+        faulty("range 0: 0 0;", 1, 7);
+        faulty("range 9 0 0;", 2, 6);
         faulty("range 0 0 0;x", 1, 12);
         faulty("range 0 0 0; 5", 1, 13);
         faulty("range 0 0 0;\t", 1, 12);
