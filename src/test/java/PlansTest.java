@@ -56,7 +56,8 @@ public final class PlansTest {
         faulty("rang 0 0 0;", 1, 0);
         faulty("ranges 0 0 0;", 1, 0);
         faulty("Range 0 0 0;", 1, 0);
-        faulty("rangeaz 0 0 0;", 1, 0);
+        faulty("rangez 0 0 0;", 1, 0);
+        faulty("rangea 0 0 0;", 1, 0);
         faulty("range`0 0 0;", 1, 5);
         faulty("range{0 0 0;", 1, 5);
         faulty("range 0/ 0 0;", 1, 7);
