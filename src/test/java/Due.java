@@ -17,6 +17,16 @@ final class Due {
         System.out.println(name + ": " + call + " answered " + got + ", due is " + want);
     }
 
+    void isTrue(String what, boolean is) {
+        is(what, is ? 1 : 0, 1);
+    }
+
+    /** Answers that come one behind the other from a call with i = 0, 1, .., and how many from one with i = -1. */
+    void areAll(String call, java.util.function.IntUnaryOperator got, int... want) {
+        is(call + ", how many", got.applyAsInt(-1), want.length);
+        are(call, got, want);
+    }
+
     /** Answers that come one behind the other from a call with i = 0, 1, .. */
     void are(String call, java.util.function.IntUnaryOperator got, int... want) {
         for (int i = 0; i < want.length; i++) {

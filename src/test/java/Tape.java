@@ -1,11 +1,17 @@
 import java.nio.charset.StandardCharsets;
 
-/** Feeds texts to an object, eight bytes at a time. */
+/** What most tests need: answers by their names, texts for the tape, ROWS for a TABLE, numbers for a SHEET. */
 final class Tape {
     static final int BAD = ProvenRows.BAD, NONE = ProvenRows.NONE, STATE = ProvenRows.STATE, FULL = ProvenRows.FULL;
     static final int NULL = -1000011, PLACE = -1000012, KIND = -1000013, SIZE = -1000014, STORE = -1000015;
+    static final int LEAST = Integer.MIN_VALUE, MOST = Integer.MAX_VALUE;
 
     private Tape() {
+    }
+
+    /** Numbers beside those from 0 to below a bound, and the two farthest. */
+    static int[] outside(int bound) {
+        return new int[] {-1, bound, LEAST, MOST};
     }
 
     static void feed(ProvenRows x, String text) {
@@ -34,21 +40,14 @@ final class Tape {
 
     /** Numbers into SHEET 7, of ints. */
     static void fill(ProvenRows x, int... numbers) {
-        x.sheet(7, 2, numbers.length);
+        fillSheet(x, 7, 2, numbers);
+    }
+
+    /** Numbers into a SHEET of a LANE that has just as many ITEMS. */
+    static void fillSheet(ProvenRows x, int sheet, int lane, int... numbers) {
+        x.sheet(sheet, lane, numbers.length);
         for (int i = 0; i < numbers.length; i++) {
-            x.set(7, i, numbers[i]);
+            x.set(sheet, i, numbers[i]);
         }
-    }
-
-    static int j(long a, long b) {
-        return (int) ((31 * a * a + 17 * b + 101) % 65521);
-    }
-
-    static int leaf(int key, int value) {
-        return j(j(key + 1, value), 7);
-    }
-
-    static int fork(int leftSeal, int leftSum, int rightSeal, int rightSum) {
-        return j(j(leftSeal, rightSeal), j(leftSum, rightSum));
     }
 }
