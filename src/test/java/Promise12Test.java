@@ -144,7 +144,9 @@ public final class Promise12Test {
             faulty(word + "z 0 0 0 0;", 1, 0);
             faulty("a" + word + " 0 0 0 0;", 1, 0);
             faulty(word.toUpperCase() + " 0 0 0 0;", 1, 0);
-            faulty(word.substring(0, 1) + "x" + word.substring(2) + " 0 0 0 0;", 1, 0);
+            for (int k = 0; k < word.length(); k++) {
+                faulty(word.substring(0, k) + "x" + word.substring(k + 1) + " 0 0 0 0;", 1, 0);
+            }
         }
         faulty("rangesum 0 0 0;", 1, 0);
         faulty("ran ge 0 0 0;", 1, 0);

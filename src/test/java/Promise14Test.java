@@ -145,6 +145,21 @@ public final class Promise14Test {
         due.is("behind the last", x.proof(0, want.length), Tape.NONE);
     }
 
+    /** Of ACTS one behind the other: what was SHOWN of one is not SHOWN of the next. */
+    private static void oneBehindTheOther() {
+        Leaves six = new Leaves(tens(6));
+        int[] all = six.proof(0, 7);
+        int[][] want = {all, six.proof(2, 3), six.proof(shown(8, 0, 1, 6, 7)), six.proof(4, 5)};
+        ProvenRows x = new ProvenRows();
+        Tape.rows(x, 0, tens(6));
+        Tape.plan(x, "range 0 0 999;first 0 21 1;sum 0 0 999;probe 0 45;");
+        for (int act = 1; act < 4; act++) {
+            int each = act;
+            due.is("all are SHOWN", x.proof(0, 31), all[31]);
+            due.areAll("ACT " + act + " behind it", i -> x.proof(each, i), want[act]);
+        }
+    }
+
     /** "as TABLES are now". */
     private static void asTablesAreNow() {
         ProvenRows x = Three.planned("range 0 10 20;");
@@ -187,6 +202,7 @@ public final class Promise14Test {
         first();
         pairs();
         widest();
+        oneBehindTheOther();
         asTablesAreNow();
         notSoMany();
         bad();

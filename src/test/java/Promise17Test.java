@@ -72,6 +72,29 @@ public final class Promise17Test {
         hiddenWith(4, 10, 12, 2);
     }
 
+    /** A SEAL that is 0, or 65520, and right is taken: of a part that is not SHOWN, of a TABLE. */
+    private static void sealsAtTheEnds() {
+        int[][] ends = {{48, 534, 0}, {71, 495, 65520}};
+        for (int[] end : ends) {
+            ProvenRows x = new ProvenRows();
+            Tape.rows(x, 0, end[0], end[1], 900, 1);
+            x.round();
+            Tape.plan(x, "probe 0 950;");
+            due.is("SEAL of the left part", x.proof(0, 3), end[2]);
+            Tape.fill(x, 4, 1, 0, end[2], end[1], 1, 1, 900, 1, 1, 1000, 0);
+            due.is("taken", x.check(0, 0, 7, 0, 12), 1);
+            x.set(7, 3, end[2] == 0 ? -1 : 65521);
+            due.is("beside it", x.check(0, 0, 7, 0, 12), -1000203);
+        }
+        ProvenRows x = new ProvenRows();
+        x.put(0, 37, 480);
+        x.round();
+        Tape.plan(x, "range 0 0 999;");
+        due.is("SEAL of the TABLE", x.seal(0, 0), 0);
+        Tape.fill(x, 3, 1, 1, 1, -1, 0, 1, 37, 480, 1, 1000, 0);
+        due.is("taken", x.check(0, 0, 7, 0, 12), 1);
+    }
+
     /** "of the first of the m leaves KEY -1, VALUE 0, of the last one KEY 1000, VALUE 0". */
     private static void firstAndLastLeaf() {
         for (int key : new int[] {0, -2, 1000, Tape.LEAST}) {
@@ -410,6 +433,7 @@ public final class Promise17Test {
         m();
         beginnings();
         sealsAndSums();
+        sealsAtTheEnds();
         firstAndLastLeaf();
         keys();
         keysBeginAnew();

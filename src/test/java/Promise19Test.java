@@ -50,6 +50,25 @@ public final class Promise19Test {
         due.areAll("no sum of an earlier one in it", x::read, 3, 18);
     }
 
+    /** What an earlier CHECK read of TABLE b, or added, is not in a later one: each behind each. */
+    private static void eachBehindEach() {
+        String plan = "range 0 0 999;sum 0 0 999;first 0 0 2;probe 0 20;join 0 1 0 999;merge 0 1 0 999;not 0 2 0 999;";
+        int[][] want = {{10, 5, 20, 6, 30, 7}, {2, 18}, {10, 5, 20, 6}, {20, 6}, {20, 6, 60}, {20, 6, 60},
+            {10, 5, 20, 6, 30, 7}};
+        for (int first = 0; first < 7; first++) {
+            for (int second = 0; second < 7; second++) {
+                ProvenRows x = Three.planned(plan);
+                x.sheet(0, 2, 100);
+                x.write(first, 0, 0);
+                x.check(first, 0, 0, 0, Tape.NONE);
+                due.areAll("ACT " + first, x::read, want[first]);
+                x.write(second, 0, 0);
+                x.check(second, 0, 0, 0, Tape.NONE);
+                due.areAll("ACT " + second + " behind ACT " + first, x::read, want[second]);
+            }
+        }
+    }
+
     /** A check() that is refused, or in which something is found, leaves it; so does forged(). */
     private static void noCheck() {
         ProvenRows x = Three.given("range 0 0 19;sum 0 0 999;", Three.WHOLE);
@@ -110,6 +129,7 @@ public final class Promise19Test {
         howMany();
         notTaken();
         asItWasRead();
+        eachBehindEach();
         noCheck();
         longest();
         bad();

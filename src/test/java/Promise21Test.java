@@ -78,6 +78,13 @@ public final class Promise21Test {
         due.is("no ROUND, no such ACT", x.forged(1, 1), Tape.BAD);
         x.round();
         due.is("a ROUND", x.forged(0, 1), 0);
+        ProvenRows y = new ProvenRows();
+        y.put(0, 37, 480);
+        Tape.plan(y, "range 0 0 999;");
+        due.is("a TABLE whose SEAL is 0", y.told(0, 1), 0);
+        due.is("no ROUND is no SEAL of 0", y.forged(0, 1), Tape.STATE);
+        y.round();
+        due.is("a ROUND of it", y.forged(0, 1), 0);
     }
 
     /** "or the PROOF as it is would not be taken": of "the latest ROUND", for "a PROOF as it is now". */
