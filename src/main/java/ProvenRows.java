@@ -448,8 +448,9 @@ public final class ProvenRows {
             return size;
         }
 
+        /** The deepest chain of calls ends here: so it tests its index itself. */
         int at(int i) {
-            return isWithin(i, size) ? items[i] : NONE;
+            return i >= 0 && i < size ? items[i] : NONE;
         }
 
         int numberOrSize(int i) {

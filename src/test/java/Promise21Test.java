@@ -37,6 +37,39 @@ public final class Promise21Test {
         due.isTrue("some were seen", seen > 10);
     }
 
+    /** Place 0: with m more by 2 "1 1 26" is no leaf, but a fork whose left leaf has KEY 26, VALUE 1; the SEAL is the same. */
+    private static void theFirstPlace() {
+        ProvenRows x = new ProvenRows();
+        Tape.rows(x, 0, 0, 1, 1, 26, 99, 24);
+        x.round();
+        Tape.plan(x, "first 0 0 3;");
+        due.is("d 2", x.forged(0, 2), 1);
+        due.is("d 1", x.forged(0, 1), 0);
+        due.is("d 3", x.forged(0, 3), 0);
+        x.sheet(0, 2, 20);
+        x.write(0, 0, 0);
+        due.is("m", x.set(0, 0, 7), 7);
+        due.is("check", x.check(0, 0, 0, 0, 20), 1);
+        due.areAll("read", x::read, 0, 1, 26, 1, 99, 24);
+    }
+
+    /** The last place: a SUM that is more by d in two forks and in the TABLE, and makes the same SEAL. */
+    private static void theLastPlace() {
+        int[][] valuesAndD = {{13, 4026}, {19, 4970}, {20, 1858}, {32, 5715}, {39, 7046}};
+        for (int[] each : valuesAndD) {
+            ProvenRows x = new ProvenRows();
+            Tape.rows(x, 0, 10, each[0], 20, 6, 30, 7);
+            x.round();
+            Tape.plan(x, "first 0 0 1;");
+            due.is("d " + each[1], x.forged(0, each[1]), 1);
+            due.is("d beside it", x.forged(0, each[1] + 1), 0);
+            x.sheet(0, 2, 16);
+            x.write(0, 0, 0);
+            x.set(0, 15, 7 + each[1]);
+            due.is("check", x.check(0, 0, 0, 0, 16), 1);
+        }
+    }
+
     /** As check() counts it: each number in its turn more by d in a SHEET. */
     private static void asCheckCountsIt() {
         for (int d : new int[] {1, 7, 980, 65520}) {
@@ -134,6 +167,8 @@ public final class Promise21Test {
     public static void main(String[] args) {
         theOtherRoot();
         ofAllProofs();
+        theFirstPlace();
+        theLastPlace();
         asCheckCountsIt();
         bad();
         noRound();
