@@ -448,7 +448,7 @@ public final class ProvenRows {
             return size;
         }
 
-        /** The deepest chain of calls ends here: so it tests its index itself. */
+        /** It is called at the end of deep chains, which LANGUAGE.md bounds: so it tests its index itself. */
         int at(int i) {
             return i >= 0 && i < size ? items[i] : NONE;
         }
@@ -570,8 +570,9 @@ public final class ProvenRows {
             return isWithin(t, BOUND) ? sums[t] : 0;
         }
 
+        /** As Numbers.at: at the end of deep chains it tests its index itself. */
         void become(int t, int newSeal, int newSum) {
-            if (isWithin(t, BOUND)) {
+            if (t >= 0 && t < BOUND) {
                 seals[t] = newSeal;
                 sums[t] = newSum;
             }

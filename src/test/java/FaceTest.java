@@ -50,6 +50,11 @@ public final class FaceTest {
         }
     }
 
+    /** How many it has beside its constants. */
+    private static long fields(Class<?> each) {
+        return Arrays.stream(each.getDeclaredFields()).filter(field -> !Modifier.isStatic(field.getModifiers())).count();
+    }
+
     private static void members() {
         due.is("final", Modifier.isFinal(ProvenRows.class.getModifiers()) ? 1 : 0, 1);
         Constructor<?>[] made = ProvenRows.class.getDeclaredConstructors();
@@ -66,10 +71,12 @@ public final class FaceTest {
         due.is("BAD", ProvenRows.BAD, -1000001);
         due.is("STATE", ProvenRows.STATE, -1000002);
         due.is("FULL", ProvenRows.FULL, -1000003);
+        due.isTrue("at most 20 fields", fields(ProvenRows.class) <= 20);
         Class<?>[] inside = ProvenRows.class.getDeclaredClasses();
         due.is("classes inside", inside.length <= 11 ? 1 : 0, 1);
         for (Class<?> each : inside) {
             due.is("private, static: " + each, Modifier.isPrivate(each.getModifiers()) && Modifier.isStatic(each.getModifiers()) ? 1 : 0, 1);
+            due.isTrue("at most 20 fields: " + each, fields(each) <= 20);
             for (Field field : each.getDeclaredFields()) {
                 boolean bound = !Modifier.isStatic(field.getModifiers()) || Modifier.isFinal(field.getModifiers());
                 due.is("static fields are final: " + field, bound ? 1 : 0, 1);
